@@ -1,0 +1,24 @@
+/** Keeps count of answers that are not the ones due; each test ends by it. */
+final class Due {
+    private int asked = 0;
+    private int wrong = 0;
+
+    void same(String what, long want, long got) {
+        same(what, Long.toString(want), Long.toString(got));
+    }
+
+    void same(String what, String want, String got) {
+        asked++;
+        if (!want.equals(got)) {
+            wrong++;
+            System.out.println(what + " answered " + got + ", due is " + want);
+        }
+    }
+
+    void end() {
+        System.out.println(asked + " answers, " + wrong + " not as due");
+        if (wrong != 0) {
+            System.exit(1);
+        }
+    }
+}
