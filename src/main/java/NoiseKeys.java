@@ -588,7 +588,8 @@ public final class NoiseKeys {
         /** FAIL, where this KEY was drawn. */
         long harmful(int key, int age) {
             growTo(age);
-            return cells.allWays() - harmless(key);
+            int codeword = code.isKey(key) ? code.words[key] : 0;
+            return cells.allWays() - harmless(this, key, 0, codeword, 1);
         }
 
         private void growTo(int age) {
@@ -600,29 +601,17 @@ public final class NoiseKeys {
             }
         }
 
-        private long harmless(int key) {
-            int codeword = code.isKey(key) ? code.words[key] : 0;
-            int end = 1 << cells.n;
-            long sum = 0;
-            int set = 0;
-            while (set < end) {
-                long ways = waysOf(set);
-                if (ways > 0 && code.nearestKey(codeword ^ set) == key) {
-                    sum += ways;
-                    set++;
-                } else {
-                    set += Math.max(1, Integer.lowestOneBit(set));
-                }
+        /** The WORD came about without harm, in so many ways, by CELLS ahead of this one: how many stay without harm. */
+        private static long harmless(Flips by, int key, int cell, int word, long ways) {
+            if (cell >= by.cells.n) {
+                return ways;
+            }
+            long sum = harmless(by, key, cell + 1, word, ways * by.stay[cell]);
+            int flipped = word ^ 1 << cell;
+            if (by.flip[cell] > 0 && by.code.nearestKey(flipped) == key) {
+                sum += harmless(by, key, cell + 1, flipped, ways * by.flip[cell]);
             }
             return sum;
-        }
-
-        private long waysOf(int set) {
-            long ways = 1;
-            for (int cell = 0; cell < cells.n && ways > 0; cell++) {
-                ways *= (set >> cell & 1) == 1 ? flip[cell] : stay[cell];
-            }
-            return ways;
         }
     }
 

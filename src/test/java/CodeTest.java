@@ -66,6 +66,13 @@ public final class CodeTest {
         keys.row(15);
         due.same("a ROW drops all", 0, keys.count(5));
         due.same("reading(0, 1)", -3, keys.reading(0, 1));
+        for (int chip = 0; chip < 8; chip++) {
+            keys.chip(chip);
+            keys.enrol(chip, 1);
+        }
+        due.same("8 CHIPS with HELP", 8, keys.count(5));
+        keys.row(240);
+        due.same("a ROW drops all 8", 0, keys.count(5));
     }
 
     private static void distances() {
@@ -109,8 +116,11 @@ public final class CodeTest {
         due.same("two of four: KEYS 0, 1", 0, keys.mended(0x03));
         due.same("not clear", 0, keys.clear(0x03));
         due.same("KEYS 2, 3", 2, keys.mended(0xf3));
+        due.same("not clear", 0, keys.clear(0xf3));
         due.same("KEYS 1, 3", 1, keys.mended(0x3f));
         due.same("not clear", 0, keys.clear(0x3f));
+        due.same("KEYS 1, 3 with a flip", 1, keys.mended(0x3e));
+        due.same("not clear", 0, keys.clear(0x3e));
         due.same("clear(0x07)", 1, keys.clear(0x07));
         due.same("all four alike", 0, keys.mended(0x33));
         due.same("not clear", 0, keys.clear(0x33));

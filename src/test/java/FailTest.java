@@ -5,6 +5,7 @@ public final class FailTest {
     public static void main(String[] args) {
         threeAlikeCells();
         whatIsNotClearGoesToTheLeastKey();
+        fourteenCells();
         maskedCellsDoNotFlip();
         withoutRowsNothingFails();
         failThrows();
@@ -49,6 +50,42 @@ public final class FailTest {
         due.same("KEY 0 keeps ties", 64, keys.fail(0, 0));
         keys.enrol(0, 1);
         due.same("KEY 1 loses them", 64 * (64 - 49), keys.fail(0, 0));
+    }
+
+    private static void fourteenCells() {
+        NoiseKeys keys = new NoiseKeys();
+        keys.cells(14);
+        keys.row(0x7f);
+        keys.row(0x3f80);
+        keys.chip(0x2b5d);
+        keys.enrol(0, 3);
+        for (int p = 0; p <= 4; p++) {
+            for (int cell = 0; cell < 14; cell++) {
+                keys.set(cell, 0, p);
+            }
+            long half = threeAtMostOfSeven(p);
+            due.same("two ROWS of seven at CHANCE " + p, keys.all() - half * half, keys.fail(0, 0));
+        }
+        keys.cells(14);
+        for (int row = 0; row < 6; row++) {
+            keys.row(1 << row + 8);
+        }
+        keys.chip(0x2b5d);
+        keys.enrol(0, 42);
+        due.same("six ROWS of one", keys.all() - (1 << 12) * (1L << 24), keys.fail(0, 0));
+    }
+
+    private static long threeAtMostOfSeven(int p) {
+        int[] choices = {1, 7, 21, 35};
+        long sum = 0;
+        for (int flips = 0; flips < choices.length; flips++) {
+            long product = choices[flips];
+            for (int cell = 0; cell < 7; cell++) {
+                product *= cell < flips ? p : 8 - p;
+            }
+            sum += product;
+        }
+        return sum;
     }
 
     private static void maskedCellsDoNotFlip() {

@@ -9,6 +9,7 @@ public final class PairsTest {
         noPlanes();
         foretoldAnswers();
         nextQuestions();
+        nextHalves();
         checksAreOnce();
         due.end();
     }
@@ -107,6 +108,9 @@ public final class PairsTest {
         due.same("foretold(6)", 0, keys.foretold(6));
         due.same("foretold(9)", 1, keys.foretold(9));
         due.same("foretold(7)", 2, keys.foretold(7));
+        keys.pair(0, 0);
+        due.same("foretold(0)", 0, keys.foretold(0));
+        due.same("foretold(6)", 0, keys.foretold(6));
         // 1 to 1 and 2, 0 to 0: 3 makes what 1 and 2 make together less what 0 makes, so more than c.
         keys = new NoiseKeys();
         keys.pair(1, 1);
@@ -130,8 +134,34 @@ public final class PairsTest {
             due.same("one of the QUESTIONS", 1, question >= 0 && question < 16 ? 1 : 0);
             due.same("not among PAIRS", asked + 1, keys.pair(question, 1));
         }
-        due.same("all say 1", -9, keys.next());
+        due.same("all are PAIRS", -9, keys.next());
         due.same("though there are PLANES", 1, keys.planes() > 0 ? 1 : 0);
+    }
+
+    private static void nextHalves() {
+        NoiseKeys keys = new NoiseKeys();
+        keys.pair(15, 1);
+        keys.pair(0, 0);
+        int question = keys.next();
+        int least = greaterPart(question);
+        for (int other = 1; other < 15; other++) {
+            int part = greaterPart(other);
+            boolean better = part < least || part == least && other < question;
+            due.same(other + " is no better than " + question, 0, better ? 1 : 0);
+        }
+    }
+
+    /** Of the PLANES that say 1 to 15 and 0 to 0: those that say the same to a QUESTION, 1 or 0, whichever are more. */
+    private static int greaterPart(int question) {
+        int greater = 0;
+        for (int answer = 0; answer < 2; answer++) {
+            NoiseKeys keys = new NoiseKeys();
+            keys.pair(15, 1);
+            keys.pair(0, 0);
+            keys.pair(question, answer);
+            greater = Math.max(greater, keys.planes());
+        }
+        return greater;
     }
 
     private static void checksAreOnce() {
@@ -155,5 +185,10 @@ public final class PairsTest {
         due.same("no such answer", -1, keys.check(6, -1));
         due.same("it is not USED", 2, keys.count(7));
         due.same("check(6, 1)", 1, keys.check(6, 1));
+        keys.pair(0, 0);
+        due.same("check(0, 0)", 1, keys.check(0, 0));
+        keys.pair(15, 1);
+        due.same("check(15, 0)", 0, keys.check(15, 0));
+        due.same("USED", 5, keys.count(7));
     }
 }

@@ -35,6 +35,9 @@ public final class WhoseTest {
         due.same("whose(0xf0)", 0, keys.whose(0xf0));
         due.same("whose(0x1f)", 1, keys.whose(0x1f));
         due.same("whose(0x33)", 0, keys.whose(0x33));
+        due.same("whose(0x1e)", 1, keys.whose(0x1e));
+        due.same("whose(0xe1)", 0, keys.whose(0xe1));
+        due.same("whose(0xff)", 0, keys.whose(0xff));
         due.same("whose(-1)", -1, keys.whose(-1));
         due.same("sure(-1)", -1, keys.sure(-1));
     }
@@ -48,6 +51,8 @@ public final class WhoseTest {
             due.same("another one with " + bits + " more", sure[bits], keys.sure(0));
             keys.chip(255);
             due.same("and one far off", sure[bits], keys.sure(0));
+            due.same("the far one", 1, keys.sure(255));
+            due.same("the first one", sure[bits], keys.sure((1 << bits) - 1));
         }
     }
 
