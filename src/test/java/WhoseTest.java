@@ -6,6 +6,7 @@ public final class WhoseTest {
         noChips();
         nearestOfTheLeastNumber();
         sureIfNoOtherIsNear();
+        sureAmongChipsWithOnes();
         maskedCellsAside();
         apartIsTheFewest();
         oddCells();
@@ -54,6 +55,18 @@ public final class WhoseTest {
             due.same("the far one", 1, keys.sure(255));
             due.same("the first one", sure[bits], keys.sure((1 << bits) - 1));
         }
+    }
+
+    private static void sureAmongChipsWithOnes() {
+        NoiseKeys keys = new NoiseKeys();
+        keys.chip(0x0f);
+        keys.chip(0x0e);
+        due.same("one CELL between them", 0, keys.sure(0x0f));
+        keys.cells(8);
+        keys.chip(0x0f);
+        keys.chip(0x7e);
+        due.same("four CELLS between them", 1, keys.sure(0x0f));
+        due.same("one and three", 0, keys.sure(0x1f));
     }
 
     private static void maskedCellsAside() {
