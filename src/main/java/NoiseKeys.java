@@ -325,7 +325,7 @@ public final class NoiseKeys {
         }
         int low = 0;
         int high = OLDEST;
-        while (low < high) {
+        for (int halvings = 0; halvings < OLDEST && low < high; halvings++) {
             int middle = (low + high) / 2;
             if (failsAbove(eighths, key, middle)) {
                 high = middle;

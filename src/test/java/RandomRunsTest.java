@@ -1,5 +1,3 @@
-import java.lang.reflect.InvocationTargetException;
-import java.lang.reflect.Method;
 import java.util.Arrays;
 import java.util.Random;
 
@@ -41,28 +39,9 @@ public final class RandomRunsTest {
     private void step(String where, Due due) {
         String name = NAMES[random.nextInt(NAMES.length)];
         Object[] arguments = argumentsOf(name);
-        String want = answer(plain, name, arguments);
-        String got = answer(keys, name, arguments);
+        String want = Calls.answer(plain, name, arguments);
+        String got = Calls.answer(keys, name, arguments);
         due.same(where + name + Arrays.toString(arguments), want, got);
-    }
-
-    private static String answer(Object object, String name, Object[] arguments) {
-        try {
-            return String.valueOf(named(object.getClass(), name).invoke(object, arguments));
-        } catch (InvocationTargetException thrown) {
-            return "throws." + thrown.getCause().getClass().getSimpleName();
-        } catch (IllegalAccessException hidden) {
-            throw new IllegalStateException(hidden);
-        }
-    }
-
-    private static Method named(Class<?> type, String name) {
-        for (Method method : type.getDeclaredMethods()) {
-            if (method.getName().equals(name)) {
-                return method;
-            }
-        }
-        throw new IllegalStateException(name);
     }
 
     private Object[] argumentsOf(String name) {
