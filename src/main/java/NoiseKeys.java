@@ -601,7 +601,7 @@ public final class NoiseKeys {
             }
         }
 
-        /** The WORD came about without harm, in so many ways, by CELLS ahead of this one: how many stay without harm. */
+        /** The WORD came about unharmed, in so many ways, by CELLS ahead of this one: how many stay unharmed. */
         private static long harmless(Flips by, int key, int cell, int word, long ways) {
             if (cell >= by.cells.n) {
                 return ways;

@@ -103,8 +103,8 @@ final class EdgesOfCells {
     }
 
     private void termChance() {
-        edges.terms("CHANCE of a CELL (of all CHIPS alike): in eighths (0 .. 4) that it answers other than its NOMINAL, "
-            + "each time for itself;");
+        edges.terms("CHANCE of a CELL (of all CHIPS alike): in eighths (0 .. 4) that it answers other than its "
+            + "NOMINAL, each time for itself;");
         NoiseKeys keys = ofCells(4);
         keys.row(1);
         keys.row(6);
@@ -126,8 +126,8 @@ final class EdgesOfCells {
     }
 
     private void termWear() {
-        edges.terms("WEAR of a CELL (0 .. 4): with an AGE of y years (0 .. 40) its CHANCE is more by WEAR times y by 10, "
-            + "cut, 4 eighths at most.");
+        edges.terms("WEAR of a CELL (0 .. 4): with an AGE of y years (0 .. 40) its CHANCE is more by WEAR times y by "
+            + "10, cut, 4 eighths at most.");
         for (int wear = 0; wear <= 4; wear++) {
             for (int first = 0; first <= 4; first++) {
                 NoiseKeys keys = ofCells(14);

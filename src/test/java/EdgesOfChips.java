@@ -62,6 +62,8 @@ final class EdgesOfChips {
                 edges.same(what + ", and all of them", due, having(0x3fff ^ word, other, 0).sure(word));
             }
         }
+        edges.same("CELLS that all have 1: 2 more", 0, having(0x1f00, 0x1f03).sure(0x1f00));
+        edges.same("CELLS that all have 1: 3 more", 1, having(0x1f00, 0x1f07).sure(0x1f00));
         NoiseKeys keys = having(0, 7);
         edges.same("3 more", 1, keys.sure(0));
         keys.mask(1);

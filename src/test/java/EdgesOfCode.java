@@ -172,8 +172,8 @@ final class EdgesOfCode {
     }
 
     private void termMended() {
-        edges.terms("MENDED: of a WORD: the CODEWORD that differs from it in the fewest CELLS, of several the one of the "
-            + "least KEY.");
+        edges.terms("MENDED: of a WORD: the CODEWORD that differs from it in the fewest CELLS, of several the one of "
+            + "the least KEY.");
         NoiseKeys keys = halves();
         for (int low = 0; low < 16; low++) {
             for (int high = 0; high < 16; high++) {

@@ -39,9 +39,9 @@ final class EdgesOfFail {
     }
 
     private void termFail() {
-        edges.terms("FAIL of a CHIP with HELP (at an AGE): the chance that a READING (its NOMINAL, CELLS flipped by their "
-            + "CHANCES) gives another KEY than was drawn: how many of 8^M (M: CELLS that are not masked): the sum over "
-            + "all sets of flips of the product over CELLS of CHANCE (flipped) or 8 less CHANCE.");
+        edges.terms("FAIL of a CHIP with HELP (at an AGE): the chance that a READING (its NOMINAL, CELLS flipped by "
+            + "their CHANCES) gives another KEY than was drawn: how many of 8^M (M: CELLS that are not masked): the "
+            + "sum over all sets of flips of the product over CELLS of CHANCE (flipped) or 8 less CHANCE.");
         int[] ages = {0, 3, 10, 39, 40};
         for (int age : ages) {
             for (int key = 0; key < 4; key++) {

@@ -40,8 +40,8 @@ final class EdgesOfGuess {
     }
 
     private void termLean() {
-        edges.terms("LEAN of a CELL: in eighths (1 .. 7; 4 at first) that its NOMINAL is 1, each CELL for itself, over all "
-            + "CHIPS that might be.");
+        edges.terms("LEAN of a CELL: in eighths (1 .. 7; 4 at first) that its NOMINAL is 1, each CELL for itself, "
+            + "over all CHIPS that might be.");
         NoiseKeys keys = new NoiseKeys();
         keys.cells(4);
         edges.same("4 at first", 4 * 4 * 4 * 4, keys.weight(9, false));
@@ -62,9 +62,9 @@ final class EdgesOfGuess {
     }
 
     private void termGuess() {
-        edges.terms("GUESS of HELP: of all KEYS, each as likely as another one ahead: with a HELP w the KEY k is as likely "
-            + "as a NOMINAL that is w and k's CODEWORD, exclusive or: the product over CELLS not masked of LEAN (1 there) "
-            + "or 8 less LEAN.");
+        edges.terms("GUESS of HELP: of all KEYS, each as likely as another one ahead: with a HELP w the KEY k is as "
+            + "likely as a NOMINAL that is w and k's CODEWORD, exclusive or: the product over CELLS not masked of "
+            + "LEAN (1 there) or 8 less LEAN.");
         NoiseKeys keys = leaning();
         // CELLS 0 and 1 are 1, 3 and 4 are 0 most often: HELP tells which CODEWORD makes them so.
         int[] helps = {3, 0, 27, 24};
@@ -77,8 +77,8 @@ final class EdgesOfGuess {
     }
 
     private void termBestGuess() {
-        edges.terms("BEST GUESS: the likeliest KEY, of several the least; its WEIGHT (that product), and ALL, the sum over "
-            + "all KEYS.");
+        edges.terms("BEST GUESS: the likeliest KEY, of several the least; its WEIGHT (that product), and ALL, the sum "
+            + "over all KEYS.");
         NoiseKeys keys = leaning();
         edges.same("ALL of 3", (42 + 2) * (42 + 2), keys.weight(3, true));
         edges.same("ALL of 1", (7 * 2 + 1 * 6) * (42 + 2), keys.weight(1, true));
@@ -114,8 +114,8 @@ final class EdgesOfGuess {
     }
 
     private void termEvenBits() {
-        edges.terms("EVEN BITS of a WORD: its CELLS that are not masked, in order, in twos: 0 then 1 gives a 0, 1 then 0 a "
-            + "1, alike ones nothing (a last one alone nothing); a row of bits.");
+        edges.terms("EVEN BITS of a WORD: its CELLS that are not masked, in order, in twos: 0 then 1 gives a 0, 1 "
+            + "then 0 a 1, alike ones nothing (a last one alone nothing); a row of bits.");
         int[] many = {0, 1, 1, 0};
         int[] bits = {0, 1, 0, 0};
         for (int word = 0; word < 16; word++) {

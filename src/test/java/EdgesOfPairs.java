@@ -94,8 +94,8 @@ final class EdgesOfPairs {
     }
 
     private void termKind() {
-        edges.terms("ANOTHER KIND of chip answers a QUESTION (four numbers, -1 or 1, told as bits: bit i set: 1) by 1 if w0 "
-            + "q0 and w1 q1 and w2 q2 and w3 q3 are c or more together, else 0; w are -3 .. 3, c is -6 .. 6.");
+        edges.terms("ANOTHER KIND of chip answers a QUESTION (four numbers, -1 or 1, told as bits: bit i set: 1) by 1 "
+            + "if w0 q0 and w1 q1 and w2 q2 and w3 q3 are c or more together, else 0; w are -3 .. 3, c is -6 .. 6.");
         for (int question = 0; question < 16; question++) {
             for (int said = 0; said < 2; said++) {
                 int[] seen = nothingSeen();
@@ -173,16 +173,18 @@ final class EdgesOfPairs {
     }
 
     private void termNext() {
-        edges.terms("NEXT QUESTION: the one (not among PAIRS) for which the greater number of PLANES that would say 1, 0 is "
-            + "least, of several the least.");
+        edges.terms("NEXT QUESTION: the one (not among PAIRS) for which the greater number of PLANES that would say "
+            + "1, 0 is least, of several the least.");
         int[] chip = {2, -1, 3, 1, 1};
         int[] seen = nothingSeen();
+        NoiseKeys keys = new NoiseKeys();
         for (int asked = 0; asked < 16; asked++) {
             int due = nextOf(seen);
-            edges.same("behind " + asked + " PAIRS", due, having(seen).next());
+            edges.same("behind " + asked + " PAIRS", due, keys.next());
             seen[due] = answer(chip, due);
+            keys.pair(due, seen[due]);
         }
-        edges.same("behind all", -9, having(seen).next());
+        edges.same("behind all", -9, keys.next());
     }
 
     private static int nextOf(int[] seen) {
@@ -211,7 +213,8 @@ final class EdgesOfPairs {
                     NoiseKeys keys = new NoiseKeys();
                     keys.pair(question, seen);
                     edges.same("USED at first", 0, keys.count(7));
-                    edges.same("check(" + question + ", " + said + ")", seen == said ? 1 : 0, keys.check(question, said));
+                    int due = seen == said ? 1 : 0;
+                    edges.same("check(" + question + ", " + said + ")", due, keys.check(question, said));
                     edges.same("USED", 1, keys.count(7));
                     edges.same("once more", -3, keys.check(question, seen));
                     edges.same("USED", 1, keys.count(7));
@@ -304,6 +307,17 @@ final class EdgesOfPairs {
         edges.same("0 was seen", 0, keys.foretold(12));
         edges.same("the first QUESTION", 2, keys.foretold(0));
         edges.same("the last QUESTION", 2, keys.foretold(15));
+        int[] seen = nothingSeen();
+        seen[3] = 1;
+        seen[12] = 0;
+        for (int more = 4; more < 8; more++) {
+            seen[more] = 0;
+            keys.pair(more, 0);
+            for (int question = 0; question < 16; question++) {
+                String name = "of " + question + " behind a PAIR more, " + more;
+                edges.same(name, foretoldBy(planesOf(seen), question), keys.foretold(question));
+            }
+        }
         edges.same("a seen one without PLANES", 3, withoutPlanes().foretold(0));
         edges.promise(26, "-1");
         edges.refused(-1, NoiseKeys::new, "foretold(16)", other -> other.foretold(16));

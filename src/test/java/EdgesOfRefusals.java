@@ -46,8 +46,8 @@ final class EdgesOfRefusals {
     }
 
     private void order() {
-        edges.terms("REFUSALS (the call answers the number, the first that fits in the order in which it tells them; nothing "
-            + "changes but how many there were):");
+        edges.terms("REFUSALS (the call answers the number, the first that fits in the order in which it tells them; "
+            + "nothing changes but how many there were):");
         refused(-1, "chip: -1, -6", keys -> keys.chip(1024));
         refused(-1, "set: -1, -2, -4", keys -> keys.set(14, 3, -1));
         refused(-1, "set: -1, -2, -6", keys -> keys.set(-1, 3, 8));

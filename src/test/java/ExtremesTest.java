@@ -5,11 +5,11 @@ import java.util.Arrays;
 /** Every call with every mix of numbers about its edges and at the ends of int, against the plain reading. */
 public final class ExtremesTest {
     private static final int[] FEW = {Integer.MIN_VALUE, -1, 0, 1, 7, 14, Integer.MAX_VALUE};
-    private static final int[] MANY = {Integer.MIN_VALUE, Integer.MIN_VALUE + 1, -65536, -9, -1, 0, 1, 2, 3, 4, 5, 7, 8, 13,
-        14, 15, 16, 40, 41, 63, 64, Integer.MAX_VALUE};
-    private static final int[] MOST = {Integer.MIN_VALUE, Integer.MIN_VALUE + 1, -65536, -16384, -257, -256, -32, -9, -1, 0,
-        1, 2, 3, 4, 5, 6, 7, 8, 9, 10, 11, 12, 13, 14, 15, 16, 17, 18, 31, 32, 33, 39, 40, 41, 63, 64, 127, 128, 255, 256, 257,
-        512, 1023, 1024, 16383, 16384, 65535, 65536, 1 << 30, Integer.MAX_VALUE - 1, Integer.MAX_VALUE};
+    private static final int[] MANY = {Integer.MIN_VALUE, Integer.MIN_VALUE + 1, -65536, -9, -1, 0, 1, 2, 3, 4, 5, 7, 8,
+        13, 14, 15, 16, 40, 41, 63, 64, Integer.MAX_VALUE};
+    private static final int[] MOST = {Integer.MIN_VALUE, Integer.MIN_VALUE + 1, -65536, -16384, -257, -256, -32, -9, -1,
+        0, 1, 2, 3, 4, 5, 6, 7, 8, 9, 10, 11, 12, 13, 14, 15, 16, 17, 18, 31, 32, 33, 39, 40, 41, 63, 64, 127, 128, 255,
+        256, 257, 512, 1023, 1024, 16383, 16384, 65535, 65536, 1 << 30, Integer.MAX_VALUE - 1, Integer.MAX_VALUE};
 
     private static final Due due = new Due();
 
