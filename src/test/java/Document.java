@@ -11,7 +11,9 @@ import java.util.regex.Pattern;
 /** The text of the document by its headings, and which words of it some test is of. */
 final class Document {
     private static final Path PLACE = Path.of("../shared/DOC.md");
-    private static final Pattern HEADING = Pattern.compile("(?m)^## (Terms|Promise \\d+).*$");
+    /** Tells mostly what the class is for: only some words of it ask for a test. */
+    static final String OPENING = "What it is";
+    private static final Pattern HEADING = Pattern.compile("(?m)^## (What it is|The public face|Terms|Promise \\d+).*$");
 
     private final Map<String, String> texts = new LinkedHashMap<>();
     private final Map<String, boolean[]> marks = new LinkedHashMap<>();
@@ -42,7 +44,7 @@ final class Document {
     }
 
     private void keep(String name, String text) {
-        if (name != null) {
+        if (name != null && !name.equals("The public face")) {
             String words = plain(text);
             texts.put(name, words);
             marks.put(name, new boolean[words.length()]);
@@ -77,7 +79,7 @@ final class Document {
         List<String> found = new ArrayList<>();
         for (String heading : texts.keySet()) {
             String rest = unmarked(heading);
-            if (!rest.isEmpty()) {
+            if (!rest.isEmpty() && !heading.equals(OPENING)) {
                 found.add(heading + ": " + rest);
             }
         }

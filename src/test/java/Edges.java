@@ -7,6 +7,10 @@ final class Edges {
     private final Due due = new Due();
     private String words = "";
 
+    void opening(String sentence) {
+        of(Document.OPENING, sentence);
+    }
+
     void terms(String sentence) {
         of("Terms", sentence);
     }

@@ -159,7 +159,10 @@ final class EdgesOfPairs {
             }
         }
         for (int question = 0; question < 16; question++) {
-            edges.same("at first, " + question, 2, new NoiseKeys().foretold(question));
+            NoiseKeys keys = new NoiseKeys();
+            edges.same("at first, " + question, 2, keys.foretold(question));
+            keys.pair(question, question & 1);
+            edges.same("as it was seen then, " + question, question & 1, keys.foretold(question));
             edges.same("without PLANES, " + question, 3, withoutPlanes().foretold(question));
         }
     }

@@ -1,6 +1,6 @@
 import java.util.function.ToLongFunction;
 
-/** The paragraph of the terms on REFUSALS, over all calls. */
+/** The paragraph of the terms on REFUSALS, over all calls; and the last calls that an object is used for. */
 final class EdgesOfRefusals {
     private static final int HUGE = Integer.MAX_VALUE;
     private static final int TINY = Integer.MIN_VALUE;
@@ -146,8 +146,8 @@ final class EdgesOfRefusals {
         refused(-6, "eighths", keys -> keys.lasts(0, 9));
     }
 
-    /** "An object is used for at most 512 calls": the last ones of them answer like the first ones. */
     private void lastCalls() {
+        edges.opening("An object is used for at most 512 calls after it has been made; what later calls answer is free.");
         NoiseKeys keys = new NoiseKeys();
         for (int call = 1; call <= 510; call++) {
             keys.row(0);
