@@ -14,6 +14,7 @@ final class Document {
     /** Tells mostly what the class is for: only some words of it ask for a test. */
     static final String OPENING = "What it is";
     private static final Pattern HEADING = Pattern.compile("(?m)^## (What it is|The public face|Terms|Promise \\d+).*$");
+    private static final Pattern FACE = Pattern.compile("(?s)## The public face\\s+```java\n(.*?)```");
 
     private final Map<String, String> texts = new LinkedHashMap<>();
     private final Map<String, boolean[]> marks = new LinkedHashMap<>();
@@ -41,6 +42,12 @@ final class Document {
         } catch (IOException broken) {
             throw new IllegalStateException(broken);
         }
+    }
+
+    /** The lines of the public face; none if the document is not there. */
+    static String face() {
+        Matcher block = FACE.matcher(Files.exists(PLACE) ? read() : "");
+        return block.find() ? block.group(1) : "";
     }
 
     private void keep(String name, String text) {

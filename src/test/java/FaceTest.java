@@ -5,6 +5,8 @@ import java.lang.reflect.Modifier;
 import java.util.ArrayList;
 import java.util.List;
 import java.util.TreeSet;
+import java.util.regex.Matcher;
+import java.util.regex.Pattern;
 
 /** The class has the document's face, and no member beyond it that another class may see. */
 public final class FaceTest {
@@ -18,14 +20,31 @@ public final class FaceTest {
         "int check(int,int)", "int whose(int)", "int sure(int)", "int apart()", "int odd(int)", "int count(int)",
     };
 
+    private static final Pattern DOCUMENTED =
+        Pattern.compile("(?m)^ {4}public (\\w+ \\w+)\\((.*?)\\)( throws (.*))?;$");
+
     public static void main(String[] args) {
         Due due = new Due();
         due.same("public and final", Modifier.PUBLIC | Modifier.FINAL, NoiseKeys.class.getModifiers());
+        due.same("the document's face", documented().toString(), new TreeSet<>(List.of(FACE)).toString());
         due.same("methods", new TreeSet<>(List.of(FACE)).toString(), methods().toString());
         due.same("constructors", "[1 of 0 parameters]", constructors().toString());
         due.same("fields that are not private", "[]", openFields().toString());
         due.same("classes inside that are not private and static", "[]", otherClasses().toString());
+        due.same("methods that are not public and bear the name of a public one", "[]", namesakes().toString());
         due.end();
+    }
+
+    /** From the document's own text; the face above if the document is not there. */
+    private static TreeSet<String> documented() {
+        TreeSet<String> found = new TreeSet<>();
+        Matcher call = DOCUMENTED.matcher(Document.face());
+        while (call.find()) {
+            String types = call.group(2).replaceAll("(\\w+) \\w+", "$1").replace(", ", ",");
+            String thrown = call.group(4) == null ? "" : " " + call.group(4).replace(", ", " ");
+            found.add(call.group(1) + "(" + types + ")" + thrown);
+        }
+        return Document.face().isEmpty() ? new TreeSet<>(List.of(FACE)) : found;
     }
 
     private static TreeSet<String> methods() {
@@ -52,6 +71,28 @@ public final class FaceTest {
             text.append(' ').append(type.getSimpleName());
         }
         return text.toString();
+    }
+
+    private static List<String> namesakes() {
+        List<Method> hidden = new ArrayList<>();
+        for (Class<?> inside : NoiseKeys.class.getDeclaredClasses()) {
+            hidden.addAll(List.of(inside.getDeclaredMethods()));
+        }
+        TreeSet<String> names = new TreeSet<>();
+        for (Method method : NoiseKeys.class.getDeclaredMethods()) {
+            if (Modifier.isPublic(method.getModifiers())) {
+                names.add(method.getName());
+            } else {
+                hidden.add(method);
+            }
+        }
+        List<String> found = new ArrayList<>();
+        for (Method method : hidden) {
+            if (names.contains(method.getName())) {
+                found.add(method.toString());
+            }
+        }
+        return found;
     }
 
     private static List<String> constructors() {
